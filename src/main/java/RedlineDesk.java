@@ -184,7 +184,7 @@ public final class RedlineDesk {
         if (ledger.isFull()) {
             return FULL;
         }
-        int made = ledger.add(ledger.kind[change], ledger.hand[change], ledger.shade[change]);
+        int made = ledger.add(ledger.kind[change], ledger.hand[change], ledger.look[change]);
         row.handOver(bit(change), bit(made), k);
         return made;
     }
@@ -201,7 +201,7 @@ public final class RedlineDesk {
             case 2:
                 return ledger.state[change];
             case 3:
-                return ledger.shade[change];
+                return ledger.look[change];
             case 4:
                 return row.lettersIn(bit(change));
             default:
@@ -234,8 +234,8 @@ public final class RedlineDesk {
         if (ledger.state[change] != OPEN) {
             return NOT;
         }
-        int before = ledger.shade[change];
-        ledger.shade[change] = look;
+        int before = ledger.look[change];
+        ledger.look[change] = look;
         return before;
     }
 
@@ -388,7 +388,7 @@ public final class RedlineDesk {
 
     private int lookOf(int spot) {
         int worn = latest(row.in[spot] & ledger.ofKind(SHAPED) & shown.counts & laterThan(row.since[spot]));
-        return worn == 0 ? row.own[spot] : ledger.shade[worn];
+        return worn == 0 ? row.own[spot] : ledger.look[worn];
     }
 
     private int mark(int kind, int hand, int a, int b, int look) {
@@ -463,7 +463,7 @@ public final class RedlineDesk {
         if (low == MOVED && high == MOVED) {
             return 2;
         }
-        if (low == SHAPED && high == SHAPED && ledger.shade[a] != ledger.shade[b]) {
+        if (low == SHAPED && high == SHAPED && ledger.look[a] != ledger.look[b]) {
             return 3;
         }
         if (low == STRUCK && (high == SHAPED || high == REMARK)) {
@@ -493,7 +493,7 @@ public final class RedlineDesk {
         }
         int worn = latest(row.in[spot] & ledger.ofKind(SHAPED) & taken & laterThan(row.since[spot]));
         if (worn != 0) {
-            row.own[spot] = ledger.shade[worn];
+            row.own[spot] = ledger.look[worn];
             row.since[spot] = worn;
         }
     }
@@ -519,7 +519,7 @@ public final class RedlineDesk {
         final int[] kind = new int[MOST_CHANGES + 1];
         final int[] hand = new int[MOST_CHANGES + 1];
         final int[] state = new int[MOST_CHANGES + 1];
-        final int[] shade = new int[MOST_CHANGES + 1];
+        final int[] look = new int[MOST_CHANGES + 1];
         int size;
 
         boolean names(int change) {
@@ -542,7 +542,7 @@ public final class RedlineDesk {
             kind[size] = kindOfIt;
             hand[size] = handOfIt;
             state[size] = OPEN;
-            shade[size] = lookOfIt;
+            look[size] = lookOfIt;
             return size;
         }
 
@@ -799,8 +799,8 @@ public final class RedlineDesk {
         private int typedSize;
         /** Bit j of words 2 i and 2 i + 1: with i LETTERS of NOW and j bytes behind us, NOW's next one is STRUCK. */
         private final long[] strikesNext = new long[2 * MOST_PIECES];
-        private int[] mostAfter = new int[MOST_BYTES + 1];
-        private int[] mostHere = new int[MOST_BYTES + 1];
+        /** How many alike ones there are at most behind j bytes of THE TAPE. */
+        private final int[] most = new int[MOST_BYTES + 1];
         int nowFrom;
         int nowTo;
         int tapeFrom;
@@ -822,37 +822,32 @@ public final class RedlineDesk {
         }
 
         private void weigh() {
-            clearRow(mostHere);
+            for (int j = 0; j <= MOST_BYTES; j++) {
+                most[j] = 0;
+            }
             for (int i = nowSize - 1; i >= 0; i--) {
-                int[] after = mostHere;
-                mostHere = mostAfter;
-                mostAfter = after;
                 weighLetter(i);
             }
         }
 
-        private static void clearRow(int[] most) {
-            for (int j = 0; j < most.length; j++) {
-                most[j] = 0;
-            }
-        }
-
-        /** From how many alike ones are kept at most behind LETTER i of NOW to how many with it. */
+        /** From how many alike ones there are at most behind LETTER i of NOW to how many there are with it. */
         private void weighLetter(int i) {
             if (i < 0 || i >= MOST_PIECES) {
                 return;
             }
             long low = 0;
             long high = 0;
-            mostHere[typedSize] = 0;
+            int withoutBoth = 0;
             for (int j = typedSize - 1; j >= 0; j--) {
-                mostHere[j] = now[i] == typed[j] ? mostAfter[j + 1] + 1 : Math.max(mostAfter[j], mostHere[j + 1]);
-                long strikes = mostAfter[j] == mostHere[j] ? 1L : 0L;
+                int withoutThis = most[j];
+                most[j] = now[i] == typed[j] ? withoutBoth + 1 : Math.max(withoutThis, most[j + 1]);
+                long strikes = most[j] == withoutThis ? 1L : 0L;
                 if (j < 64) {
                     low |= strikes << j;
                 } else {
                     high |= strikes << (j - 64);
                 }
+                withoutBoth = withoutThis;
             }
             strikesNext[2 * i] = low;
             strikesNext[2 * i + 1] = high;

@@ -11,9 +11,9 @@ public final class PromisesTest {
 
   public static void main(String[] args) {
     newObject(); type(); begin(); length(); told(); toldLooks(); place();
-    put(); putBehind(); putFull(); marks(); marksFull(); shape(); move(); moveTokens(); moveRound(); moveFull();
+    put(); putBehind(); putFull(); marks(); marksFull(); shape(); move(); moveTokens(); moveRound(); moveDeep(); moveFull();
     settle(); cut(); change(); span(); look(); clash(); clashes();
-    compare(); compareGaps(); compareMoved(); compareFull(); clean(); cleanMoved(); cleanLooks(); count(); refusals();
+    compare(); compareGaps(); compareLong(); compareMoved(); compareFull(); clean(); cleanMoved(); cleanLooks(); count(); refusals();
     System.out.println("PromisesTest: " + asked + " asked, " + wrong + " wrong");
     if (wrong != 0) System.exit(1);
   }
@@ -426,6 +426,25 @@ public final class PromisesTest {
     due("11 not round", z.move(1, 3, 6, 0), 2);
   }
 
+  /** Each TOKEN within the one before it, to the last number there is. */
+  private static void moveDeep() {
+    RedlineDesk x = desk("abcdefghijklmnopqrstuvwxyz");
+    due("11 behind b", x.move(0, 0, 1, 2), 1);
+    StringBuilder homes = new StringBuilder("01");
+    for (int n = 2; n <= 24; n++) {
+      due("11 one deeper", x.move(0, n, n + 1, n), n);
+      homes.append(Character.forDigit(n, 36));
+    }
+    due("11 deep text", text(x, 3), "bacdefghijklmnopqrstuvwxyz");
+    due("11 deep homes", told(x, 3, 3), homes + "0");
+    RedlineDesk y = desk("abcdef");
+    y.move(0, 0, 1, 2);
+    y.move(0, 2, 3, 2);
+    y.move(0, 3, 4, 3);
+    due("11 text", text(y, 3) + told(y, 3, 3), "bacdef" + "012300");
+    due("11 round over three", y.move(1, 0, 3, 4) + 10 * y.move(1, 0, 4, 6) + 100 * y.move(0, 0, 2, 3), NOT + 40 + 100 * NOT);
+  }
+
   private static void moveFull() {
     RedlineDesk x = fullOfChanges("abc");
     due("11 full changes", x.move(0, 0, 1, 2), FULL);
@@ -643,6 +662,14 @@ public final class PromisesTest {
     due("18 settled", x.clashes(), 1);
     x.settle(3, true);
     due("18 all settled", x.clashes(), 0);
+    RedlineDesk y = desk("ab");
+    while (y.count(2) < 22) y.remark(0, 0, 1);
+    y.strike(1, 1, 2);
+    y.remark(2, 1, 2);
+    due("18 the last two", y.clashes() + 10 * y.clash(23, 24), 41);
+    y.settle(23, true);
+    y.settle(24, false);
+    due("18 the last ones settled", y.clashes() + y.count(4) * 10 + y.count(5) * 100 + y.length(1) * 1000, 1110);
   }
 
   // ---- 19 .. 21: comparing, cleaning, counting
@@ -711,6 +738,24 @@ public final class PromisesTest {
     due("19 text by the rule", text(t, 3), "cbabac");
   }
 
+  /** Beyond 64 bytes, too, the fewest by the rule. */
+  private static void compareLong() {
+    String first = "", other = "";
+    for (int i = 0; i < 120; i++) {
+      first += (char) ('!' + i % 90);
+      other += i % 40 == 25 ? '~' : first.charAt(i);
+    }
+    RedlineDesk x = desk(first);
+    due("19 long, one by one", compared(x, 3, other), "-1+1-1+1-1+1");
+    due("19 long text", text(x, 6), other);
+    RedlineDesk y = desk(repeated("a", 70) + "bc" + repeated("d", 48));
+    due("19 struck first, far behind", compared(y, 1, repeated("a", 70) + "cb" + repeated("d", 48)), "-1+1");
+    due("19 long text", text(y, 4) + y.span(1, 0, true), repeated("a", 70) + "cb" + repeated("d", 48) + "70");
+    RedlineDesk z = desk(repeated("a", 63) + "xyz" + repeated("d", 48));
+    due("19 at the 64th", compared(z, 1, repeated("a", 63) + "zxy" + repeated("d", 48)), "+1-1");
+    due("19 long text", text(z, 4), repeated("a", 63) + "zxy" + repeated("d", 48));
+  }
+
   private static void compareMoved() {
     RedlineDesk x = desk("abcdef");
     x.move(0, 1, 3, 5);
@@ -749,6 +794,12 @@ public final class PromisesTest {
     RedlineDesk v = desk("ab");
     while (v.count(2) < 22) v.remark(0, 0, 1);
     due("19 two of two", typed(v, "ax").compare(0), 2);
+    RedlineDesk q = desk("ab");
+    while (q.count(2) < 23) q.remark(0, 0, 1);
+    due("19 one of one, put", typed(q, "axb").compare(0), 1);
+    RedlineDesk p = desk("axb");
+    while (p.count(2) < 23) p.remark(0, 0, 1);
+    due("19 one of one, struck", typed(p, "ab").compare(0) + p.change(24, 0), 2);
     RedlineDesk w = oneLeft();
     w.settle(1, false);
     due("19 full row", typed(w, repeated("a", 117) + "xya").compare(0), FULL);
