@@ -1,95 +1,26 @@
 /** Each promise of the document by its number: ordinary inputs, the edges that it names, and wrong inputs. */
-public final class PromisesTest {
-  private static final int BAD = -1, NOT = -2, FULL = -3, CAST = -13;
-  private static final int LEAST = Integer.MIN_VALUE, MOST = Integer.MAX_VALUE;
-  private static int wrong = 0, asked = 0;
-
-  private static void due(String what, Object got, Object want) {
-    asked++;
-    if (!got.equals(want)) { wrong++; System.out.println(what + " answered " + got + ", due is " + want); }
-  }
-
+public final class PromisesTest extends Checks {
   public static void main(String[] args) {
     newObject(); type(); begin(); length(); told(); toldLooks(); place();
     put(); putBehind(); putFull(); marks(); marksFull(); shape(); move(); moveTokens(); moveRound(); moveDeep(); moveFull();
     settle(); cut(); change(); span(); look(); clash(); clashes();
-    compare(); compareGaps(); compareLong(); compareMoved(); compareFull(); clean(); cleanMoved(); cleanLooks(); count(); refusals();
-    System.out.println("PromisesTest: " + asked + " asked, " + wrong + " wrong");
-    if (wrong != 0) System.exit(1);
-  }
-
-  // ---- helpers
-
-  private static RedlineDesk typed(RedlineDesk x, String text) {
-    for (int i = 0; i < text.length(); i++) x.type(text.charAt(i), 1);
-    return x;
-  }
-
-  private static RedlineDesk desk(String first) {
-    RedlineDesk x = typed(new RedlineDesk(), first);
-    x.begin();
-    return x;
-  }
-
-  private static int put(RedlineDesk x, int hand, int a, String text) { return typed(x, text).put(hand, a); }
-
-  private static String text(RedlineDesk x, int view) {
-    StringBuilder out = new StringBuilder();
-    for (int p = 0; p < x.length(view); p++) out.append((char) x.told(view, p, 0));
-    return out.toString();
-  }
-
-  /** What is told of every LETTER of a VIEW, a sign each. */
-  private static String told(RedlineDesk x, int view, int what) {
-    StringBuilder out = new StringBuilder();
-    for (int p = 0; p < x.length(view); p++) out.append(Character.forDigit(x.told(view, p, what), 36));
-    return out.toString();
-  }
-
-  private static String repeated(String s, int n) {
-    StringBuilder out = new StringBuilder();
-    for (int i = 0; i < n; i++) out.append(s);
-    return out.toString();
-  }
-
-  /** All that can be seen but the TAPE's bytes. */
-  private static String state(RedlineDesk x) {
-    StringBuilder out = new StringBuilder();
-    for (int v = 0; v < 7; v++) {
-      out.append('|').append(text(x, v));
-      for (int what = 1; what < 8; what++) out.append(',').append(told(x, v, what));
-    }
-    for (int n = 1; n <= x.count(2); n++) for (int what = 0; what < 5; what++) out.append(' ').append(x.change(n, what));
-    for (int what = 0; what < 7; what++) out.append(';').append(x.count(what));
-    return out.toString();
-  }
-
-  private static RedlineDesk fullOfChanges(String first) {
-    RedlineDesk x = desk(first);
-    while (x.count(2) < 24) x.remark(0, 0, 1);
-    return x;
-  }
-
-  /** 239 LETTERS, none of the TAPE. */
-  private static RedlineDesk oneLeft() {
-    RedlineDesk x = desk(repeated("a", 120));
-    put(x, 0, 0, repeated("b", 119));
-    return x;
+    compare(); compareGaps(); compareLong(); compareMoved(); compareFull(); clean(); cleanMoved(); cleanLooks(); count();
+    end("PromisesTest");
   }
 
   // ---- 1 .. 6: texts
 
   private static void newObject() {
-    RedlineDesk x = new RedlineDesk();
+    Desk x = new Desk();
     for (int what = 0; what <= 6; what++) due("1 count(" + what + ")", x.count(what), 0);
     for (int v = 0; v <= 6; v++) due("1 length(" + v + ")", x.length(v), 0);
     due("1 clashes", x.clashes(), 0);
     due("1 change", x.change(1, 0), BAD);
-    due("1 another's", typed(new RedlineDesk(), "a").count(6) + new RedlineDesk().count(6), 1);
+    due("1 another's", typed(new Desk(), "a").count(6) + new Desk().count(6), 1);
   }
 
   private static void type() {
-    RedlineDesk x = new RedlineDesk();
+    Desk x = new Desk();
     due("2 eight", x.type(0x4142434445464748L, 8), 8);
     due("2 lowest", x.type(0x0001FF2049L, 2), 10);
     due("2 ends", x.type(0x207EL, 2), 12);
@@ -117,16 +48,12 @@ public final class PromisesTest {
   }
 
   private static void begin() {
-    RedlineDesk x = desk("abc");
+    Desk x = desk("abc");
     due("3 text", text(x, 0) + text(x, 1) + text(x, 2) + text(x, 6), "abcabcabcabc");
     due("3 tape", x.count(6), 0);
-    x.strike(0, 0, 2);
-    x.move(1, 0, 1, 2);
-    x.shape(1, 0, 1, 2);
-    x.settle(1, true);
-    typed(x, "wxyz");
-    due("3 again", x.begin(), 4);
-    due("3 all else goes", state(x), state(desk("wxyz")));
+    due("3 again", typed(muchChanged(x), "wxyz").begin(), 4);
+    due("3 all else goes", seen(() -> { Desk y = typed(muchChanged(desk("abc")), "wxyz"); y.begin(); return y; }),
+        seen(() -> desk("wxyz")));
     due("3 numbers from 1", x.strike(0, 0, 1), 1);
     due("3 open again", x.change(1, 2), 0);
     due("3 empty", x.begin(), 0);
@@ -134,16 +61,24 @@ public final class PromisesTest {
     due("3 full tape", typed(x, repeated("q", 120)).begin(), 120);
   }
 
+  private static Desk muchChanged(Desk x) {
+    x.strike(0, 0, 2);
+    x.move(1, 0, 1, 2);
+    x.shape(1, 0, 1, 2);
+    x.settle(1, true);
+    return x;
+  }
+
   /** "abcd"; 1 PUT "XY" by 0 behind b; 2 STRUCK bc by 1. */
-  private static RedlineDesk example() {
-    RedlineDesk x = desk("abcd");
+  private static Desk example() {
+    Desk x = desk("abcd");
     put(x, 0, 2, "XY");
     x.strike(1, 1, 3);
     return x;
   }
 
   private static void length() {
-    RedlineDesk x = example();
+    Desk x = example();
     int[] due = {4, 4, 4, 6, 2, 4, 4};
     for (int v = 0; v <= 6; v++) due("4 length(" + v + ")", x.length(v), due[v]);
     due("4 below", x.length(-1), BAD);
@@ -157,7 +92,7 @@ public final class PromisesTest {
   }
 
   private static void told() {
-    RedlineDesk x = example();
+    Desk x = example();
     x.remark(3, 0, 4);
     x.remark(0, 0, 6);
     x.shape(0, 0, 3, 5);
@@ -179,11 +114,11 @@ public final class PromisesTest {
     due("5 view", x.told(7, 0, 0) + x.told(-1, 0, 0) + x.told(LEAST, 0, 0) + x.told(MOST, 0, 0), 4 * BAD);
     due("5 place", x.told(0, 4, 0) + x.told(0, -1, 0) + x.told(0, LEAST, 0) + x.told(0, MOST, 0), 4 * BAD);
     due("5 what", x.told(0, 0, 8) + x.told(0, 0, -1) + x.told(0, 0, LEAST) + x.told(0, 0, MOST), 4 * BAD);
-    due("5 empty", new RedlineDesk().told(0, 0, 0), BAD);
+    due("5 empty", new Desk().told(0, 0, 0), BAD);
   }
 
   private static void toldLooks() {
-    RedlineDesk x = desk("abc");
+    Desk x = desk("abc");
     x.shape(0, 0, 2, 3);
     x.shape(1, 1, 3, 4);
     x.shape(0, 1, 2, 6);
@@ -199,7 +134,7 @@ public final class PromisesTest {
   }
 
   private static void place() {
-    RedlineDesk x = example();
+    Desk x = example();
     due("6 there", x.place(3, 5, 0), 3);
     due("6 itself", x.place(3, 4, 3), 4);
     due("6 to all", x.place(3, 2, 2) + 10 * x.place(3, 3, 2), 21);
@@ -209,7 +144,7 @@ public final class PromisesTest {
     due("6 view", x.place(7, 0, 0) + x.place(-1, 0, 0), 2 * BAD);
     due("6 other", x.place(0, 0, 7) + x.place(0, 0, -1) + x.place(0, 0, MOST), 3 * BAD);
     due("6 place", x.place(4, 2, 0) + x.place(4, -1, 0) + x.place(4, LEAST, 0), 3 * BAD);
-    RedlineDesk y = desk("abab");
+    Desk y = desk("abab");
     y.move(0, 0, 2, 4);
     due("6 of the letter, not its byte", y.place(3, 0, 0) + 10 * y.place(0, 0, 3), 22);
   }
@@ -217,7 +152,7 @@ public final class PromisesTest {
   // ---- 7 .. 11: changes made
 
   private static void put() {
-    RedlineDesk x = desk("ab");
+    Desk x = desk("ab");
     due("7 first", put(x, 1, 0, "XY"), 1);
     due("7 tape goes", x.count(6), 0);
     due("7 open", x.change(1, 2) + x.change(1, 3), 0);
@@ -233,22 +168,22 @@ public final class PromisesTest {
     due("7 hand", x.put(4, 0) + x.put(-1, 0) + x.put(LEAST, 0) + x.put(MOST, 0), 4 * BAD);
     due("7 place", x.put(0, 4) + x.put(0, -1) + x.put(0, LEAST) + x.put(0, MOST), 4 * BAD);
     due("7 tape stays", x.count(6), 1);
-    due("7 bad before not", new RedlineDesk().put(4, 0) + new RedlineDesk().put(0, 1), 2 * BAD);
-    due("7 into nothing", put(new RedlineDesk(), 3, 0, "abc"), 1);
+    due("7 bad before not", new Desk().put(4, 0) + new Desk().put(0, 1), 2 * BAD);
+    due("7 into nothing", put(new Desk(), 3, 0, "abc"), 1);
   }
 
   private static void putBehind() {
-    RedlineDesk x = desk("abcd");
+    Desk x = desk("abcd");
     x.strike(0, 1, 3);
     put(x, 0, 1, "X");
     due("7 right behind what is shown", text(x, 4), "abcd");
     x.settle(2, true);
     due("7 ahead of what is struck", text(x, 4), "aXbcd");
-    RedlineDesk y = desk("abcd");
+    Desk y = desk("abcd");
     put(y, 0, 0, "1");
     put(y, 1, 0, "2");
     due("7 the later one ahead", text(y, 2), "21abcd");
-    RedlineDesk z = desk("abcd");
+    Desk z = desk("abcd");
     z.move(0, 0, 2, 4);
     put(z, 0, 3, "X");
     due("7 in the moved one", text(z, 3) + told(z, 3, 5) + told(z, 3, 3), "cdaXb" + "00111" + "00111");
@@ -260,52 +195,42 @@ public final class PromisesTest {
   }
 
   private static void putFull() {
-    RedlineDesk x = desk(repeated("a", 120));
+    Desk x = desk(repeated("a", 120));
     due("7 half", put(x, 0, 60, repeated("b", 119)), 1);
     typed(x, "cd");
     due("7 full row", x.put(0, 0), FULL);
     due("7 bad before full", x.put(0, 240) + x.put(4, 0), 2 * BAD);
     due("7 nothing made", x.count(0) + x.count(2) + x.count(6), 239 + 1 + 2);
-    RedlineDesk y = oneLeft();
+    Desk y = oneLeft();
     due("7 the last one", put(y, 0, 239, "c"), 2);
     due("7 none left", put(y, 0, 0, "d"), FULL);
-    due("7 not before full", oneLeftAndNoTape().put(0, 0), NOT);
-    RedlineDesk z = fullOfChanges("ab");
+    due("7 not before full", fullRow().put(0, 0), NOT);
+    Desk z = fullOfChanges("ab");
     due("7 full changes", put(z, 0, 0, "x"), FULL);
     due("7 tape stays", z.count(6), 1);
     due("7 row is as it was", text(z, 2), "ab");
-    RedlineDesk v = desk(repeated("a", 120));
+    Desk v = desk(repeated("a", 120));
     v.move(0, 0, 1, 5);
     due("7 a token takes room", put(v, 0, 0, repeated("b", 120)), FULL);
-  }
-
-  private static RedlineDesk oneLeftAndNoTape() {
-    RedlineDesk x = oneLeft();
-    put(x, 0, 0, "c");
-    return x;
-  }
-
-  private static int marked(RedlineDesk x, int kind, int hand, int a, int b) {
-    return kind == 1 ? x.strike(hand, a, b) : kind == 3 ? x.shape(hand, a, b, 1) : x.remark(hand, a, b);
   }
 
   private static void marks() {
     for (int kind = 1; kind <= 4; kind += kind == 1 ? 2 : 1) {
       String p = (kind == 1 ? 8 : kind == 3 ? 9 : 10) + " ";
-      RedlineDesk x = desk("abcd");
-      due(p + "made", marked(x, kind, 2, 1, 3), 1);
+      Desk x = desk("abcd");
+      due(p + "made", mark(x, kind, 2, 1, 3), 1);
       due(p + "alike", x.change(1, 0) + 10 * x.change(1, 1) + 100 * x.change(1, 2) + 1000 * x.change(1, 4), 2020 + kind);
       due(p + "letters", told(x, 0, kind == 1 ? 4 : kind + 3), "0110");
-      due(p + "whole", marked(x, kind, 0, 0, 4), 2);
-      due(p + "hand", marked(x, kind, 4, 0, 1) + marked(x, kind, -1, 0, 1) + marked(x, kind, LEAST, 0, 1), 3 * BAD);
-      due(p + "none", marked(x, kind, 1, 1, 1) + marked(x, kind, 1, 0, 0) + marked(x, kind, 1, 4, 4), 3 * BAD);
-      due(p + "turned", marked(x, kind, 1, 2, 1), BAD);
-      due(p + "out", marked(x, kind, 1, 0, 5) + marked(x, kind, 1, -1, 1) + marked(x, kind, 1, 4, 5), 3 * BAD);
-      due(p + "far", marked(x, kind, 1, LEAST, MOST) + marked(x, kind, 1, 0, MOST) + marked(x, kind, 1, LEAST, 1), 3 * BAD);
+      due(p + "whole", mark(x, kind, 0, 0, 4), 2);
+      due(p + "hand", mark(x, kind, 4, 0, 1) + mark(x, kind, -1, 0, 1) + mark(x, kind, LEAST, 0, 1), 3 * BAD);
+      due(p + "none", mark(x, kind, 1, 1, 1) + mark(x, kind, 1, 0, 0) + mark(x, kind, 1, 4, 4), 3 * BAD);
+      due(p + "turned", mark(x, kind, 1, 2, 1), BAD);
+      due(p + "out", mark(x, kind, 1, 0, 5) + mark(x, kind, 1, -1, 1) + mark(x, kind, 1, 4, 5), 3 * BAD);
+      due(p + "far", mark(x, kind, 1, LEAST, MOST) + mark(x, kind, 1, 0, MOST) + mark(x, kind, 1, LEAST, 1), 3 * BAD);
       due(p + "nothing made", x.count(2), 2);
       due(p + "tape free", x.count(6), 0);
     }
-    RedlineDesk y = desk("abcd");
+    Desk y = desk("abcd");
     y.strike(0, 1, 3);
     due("8 for the hand", text(y, 3) + text(y, 4) + text(y, 2) + text(y, 1), "adabcdadabcd");
     due("8 in the hand's view", y.strike(0, 0, 2), 2);
@@ -316,7 +241,7 @@ public final class PromisesTest {
   }
 
   private static void marksFull() {
-    RedlineDesk x = fullOfChanges("abc");
+    Desk x = fullOfChanges("abc");
     due("8 full", x.strike(0, 0, 1), FULL);
     due("9 full", x.shape(0, 0, 1, 7), FULL);
     due("10 full", x.remark(0, 0, 1), FULL);
@@ -324,12 +249,12 @@ public final class PromisesTest {
     due("9 bad first", x.shape(0, 0, 4, 1) + x.shape(0, 0, 1, 8), 2 * BAD);
     due("10 bad first", x.remark(0, 3, 4), BAD);
     due("8 nothing entered", told(x, 0, 4) + told(x, 0, 6), "000000");
-    RedlineDesk y = oneLeftAndNoTape();
-    due("8 a full row is no matter", y.strike(0, 0, 240) + y.remark(1, 0, 120), 7);
+    Desk y = fullRow();
+    due("8 a full row is no matter", y.strike(0, 0, 240) + y.remark(1, 0, 120), 5);
   }
 
   private static void shape() {
-    RedlineDesk x = desk("abc");
+    Desk x = desk("abc");
     due("9 least", x.shape(0, 0, 1, 1), 1);
     due("9 greatest", x.shape(0, 1, 2, 7), 2);
     due("9 look", x.shape(0, 0, 1, 0) + x.shape(0, 0, 1, 8) + x.shape(0, 0, 1, -1) + x.shape(0, 0, 1, MOST), 4 * BAD);
@@ -338,7 +263,7 @@ public final class PromisesTest {
   }
 
   private static void move() {
-    RedlineDesk x = desk("abcdefgh");
+    Desk x = desk("abcdefgh");
     due("11 to the right", x.move(0, 1, 3, 6), 1);
     due("11 text", text(x, 3) + " " + text(x, 2) + " " + text(x, 4), "adefbcgh adefbcgh abcdefgh");
     due("11 told", told(x, 3, 3) + told(x, 0, 5), "00001100" + "01100000");
@@ -351,7 +276,7 @@ public final class PromisesTest {
     due("11 where it is, b", x.move(2, 1, 3, 3), 4);
     due("11 same text", text(x, 5), "abcdefgh");
     due("11 all", x.move(3, 0, 8, 8) + x.move(3, 0, 8, 0), 11);
-    RedlineDesk y = desk("abcd");
+    Desk y = desk("abcd");
     due("11 within", y.move(0, 0, 4, 1) + y.move(0, 0, 4, 3) + y.move(0, 1, 3, 2), 3 * BAD);
     due("11 hand", y.move(4, 0, 1, 2) + y.move(-1, 0, 1, 2) + y.move(MOST, 0, 1, 2), 3 * BAD);
     due("11 span", y.move(0, 1, 1, 0) + y.move(0, 2, 1, 0) + y.move(0, -1, 1, 3) + y.move(0, 0, 5, 0), 4 * BAD);
@@ -364,27 +289,27 @@ public final class PromisesTest {
   }
 
   private static void moveTokens() {
-    RedlineDesk x = desk("abcdef");
+    Desk x = desk("abcdef");
     x.move(0, 0, 1, 3);
     due("11 a behind c", text(x, 3), "bcadef");
     due("11 c a d to the end", x.move(0, 1, 4, 6), 2);
     due("11 text, a in the row's order", text(x, 3), "befacd");
     due("11 a is in both", told(x, 3, 5) + " " + told(x, 3, 3), "000211 000222");
-    RedlineDesk y = desk("abcdef");
+    Desk y = desk("abcdef");
     y.move(0, 0, 1, 3);
     y.move(0, 1, 2, 6);
     due("11 only c goes", text(y, 3), "badefc");
     due("11 c to the end, then b and d with the token", y.move(0, 0, 3, 5), 3);
     due("11 text", text(y, 3), "efabdc");
-    RedlineDesk z = desk("abcdef");
+    Desk z = desk("abcdef");
     z.move(1, 5, 6, 2);
     z.move(0, 1, 4, 0);
     due("11 another's token goes along", text(z, 2) + " " + text(z, 3) + " " + text(z, 4), "bfcdae bcdaef abfcde");
-    RedlineDesk v = desk("abcdef");
+    Desk v = desk("abcdef");
     v.move(1, 5, 6, 4);
     v.move(0, 1, 4, 0);
     due("11 a token behind the last one stays", text(v, 2), "bcdafe");
-    RedlineDesk w = desk("abcdef");
+    Desk w = desk("abcdef");
     w.move(1, 5, 6, 1);
     w.move(0, 1, 4, 0);
     due("11 a token ahead of the first one stays", text(w, 2), "bcdafe");
@@ -392,11 +317,11 @@ public final class PromisesTest {
   }
 
   private static void moveTokensStandElsewhere() {
-    RedlineDesk x = desk("abcdef");
+    Desk x = desk("abcdef");
     x.move(0, 1, 4, 6);
     x.move(0, 5, 6, 4);
     due("11 behind b, in its own", text(x, 3), "aefbdc");
-    RedlineDesk y = desk("abcdef");
+    Desk y = desk("abcdef");
     y.move(0, 1, 4, 6);
     put(y, 0, 0, "-");
     due("11 a token in the moved", y.move(0, 0, 1, 5), 3);
@@ -407,16 +332,16 @@ public final class PromisesTest {
   }
 
   private static void moveRound() {
-    RedlineDesk x = desk("abcd");
+    Desk x = desk("abcd");
     due("11 one", x.move(0, 0, 2, 4), 1);
     due("11 in one's own, behind its last", text(x, 3), "cdab");
     due("11 within its span", x.move(0, 2, 4, 3), BAD);
     due("11 another hand's, likewise", x.move(1, 0, 2, 4), 2);
-    RedlineDesk y = desk("abcdef");
+    Desk y = desk("abcdef");
     y.move(0, 0, 2, 4);
     due("11 cd behind b, in the first", y.move(1, 2, 4, 2), 2);
     due("11 one within another", text(y, 2) + told(y, 2, 3), "abcdef" + "112200");
-    RedlineDesk z = desk("abcdef");
+    Desk z = desk("abcdef");
     z.move(0, 0, 3, 5);
     due("11 def behind a", z.move(1, 3, 6, 1), NOT);
     due("11 nothing made", z.count(2) + z.count(1) + z.change(1, 4), 5);
@@ -428,7 +353,7 @@ public final class PromisesTest {
 
   /** Each TOKEN within the one before it, to the last number there is. */
   private static void moveDeep() {
-    RedlineDesk x = desk("abcdefghijklmnopqrstuvwxyz");
+    Desk x = desk("abcdefghijklmnopqrstuvwxyz");
     due("11 behind b", x.move(0, 0, 1, 2), 1);
     StringBuilder homes = new StringBuilder("01");
     for (int n = 2; n <= 24; n++) {
@@ -437,7 +362,7 @@ public final class PromisesTest {
     }
     due("11 deep text", text(x, 3), "bacdefghijklmnopqrstuvwxyz");
     due("11 deep homes", told(x, 3, 3), homes + "0");
-    RedlineDesk y = desk("abcdef");
+    Desk y = desk("abcdef");
     y.move(0, 0, 1, 2);
     y.move(0, 2, 3, 2);
     y.move(0, 3, 4, 3);
@@ -446,17 +371,17 @@ public final class PromisesTest {
   }
 
   private static void moveFull() {
-    RedlineDesk x = fullOfChanges("abc");
+    Desk x = fullOfChanges("abc");
     due("11 full changes", x.move(0, 0, 1, 2), FULL);
     due("11 bad first", x.move(0, 0, 4, 0), BAD);
     due("11 nothing made", x.count(1), 0);
-    RedlineDesk y = oneLeft();
+    Desk y = oneLeft();
     due("11 the last one", y.move(0, 0, 1, 3), 2);
     due("11 full row", y.move(0, 0, 1, 3), FULL);
     due("11 no change", y.count(2), 2);
-    RedlineDesk z = desk("abcdef");
+    Desk z = desk("abcdef");
     z.move(0, 0, 3, 5);
-    while (z.count(2) < 24) z.remark(0, 0, 1);
+    withChanges(z, 24);
     due("11 not before full", z.move(1, 3, 6, 1), NOT);
     due("11 else full", z.move(1, 3, 6, 0), FULL);
   }
@@ -464,7 +389,7 @@ public final class PromisesTest {
   // ---- 12 .. 18: changes settled, cut, told
 
   private static void settle() {
-    RedlineDesk x = example();
+    Desk x = example();
     due("12 taken", x.settle(1, true), 1);
     due("12 refused", x.settle(2, false), 1);
     due("12 states", x.change(1, 2) + 10 * x.change(2, 2), 21);
@@ -473,7 +398,7 @@ public final class PromisesTest {
     due("12 bad", x.settle(0, true) + x.settle(3, true) + x.settle(-1, false) + x.settle(25, false), 4 * BAD);
     due("12 far", x.settle(LEAST, true) + x.settle(MOST, true) + x.settle(33, true), 3 * BAD);
     due("12 in any order", text(x, 1), "abXYcd");
-    RedlineDesk y = desk("abc");
+    Desk y = desk("abc");
     put(y, 0, 1, "XYZ");
     y.strike(0, 2, 3);
     y.settle(2, true);
@@ -483,7 +408,7 @@ public final class PromisesTest {
   }
 
   private static void cut() {
-    RedlineDesk x = desk("abcd");
+    Desk x = desk("abcd");
     x.strike(2, 0, 4);
     due("13 new number", x.cut(1, 1), 2);
     due("13 letters", x.change(1, 4) + 10 * x.change(2, 4), 31);
@@ -493,7 +418,7 @@ public final class PromisesTest {
     due("13 open ones", x.cut(2, 1), NOT);
     due("13 one letter", x.cut(1, 1), NOT);
     due("13 bad", x.cut(0, 1) + x.cut(3, 1) + x.cut(-1, 1) + x.cut(LEAST, 1) + x.cut(MOST, 1), 5 * BAD);
-    RedlineDesk y = desk("abcd");
+    Desk y = desk("abcd");
     put(y, 1, 0, "wxyz");
     y.shape(0, 0, 4, 6);
     y.remark(0, 1, 3);
@@ -508,18 +433,18 @@ public final class PromisesTest {
     y.settle(4, true);
     due("13 cast before not", y.cut(4, 1), CAST);
     due("13 in the row's order", text(y, 1) + told(y, 0, 6), "cabd1111");
-    RedlineDesk z = fullOfChanges("ab");
+    Desk z = fullOfChanges("ab");
     z.settle(2, true);
     due("13 not before full", z.cut(1, 1) + z.cut(2, 1), 2 * NOT);
-    RedlineDesk v = desk("ab");
+    Desk v = desk("ab");
     v.strike(0, 0, 2);
-    while (v.count(2) < 24) v.remark(1, 0, 1);
+    for (int n = 2; n <= 24; n++) v.remark(1, 0, 1);
     due("13 full", v.cut(1, 1), FULL);
     due("13 nothing cut", v.change(1, 4), 2);
   }
 
   private static void change() {
-    RedlineDesk x = desk("abcdef");
+    Desk x = desk("abcdef");
     put(x, 1, 0, "xyz");
     x.strike(2, 0, 1);
     x.move(3, 0, 2, 4);
@@ -536,7 +461,7 @@ public final class PromisesTest {
   }
 
   private static void span() {
-    RedlineDesk x = example();
+    Desk x = example();
     x.remark(3, 1, 4);
     due("15 first", x.span(1, 2, false) + 10 * x.span(1, 2, true), 21);
     due("15 in another view", x.span(3, 0, false) + 10 * x.span(3, 0, true), 31);
@@ -545,19 +470,19 @@ public final class PromisesTest {
     due("15 settled", x.settle(1, true) + x.span(1, 1, true), 4);
     due("15 change", x.span(0, 0, true) + x.span(4, 0, true) + x.span(MOST, 0, true), 3 * BAD);
     due("15 view", x.span(1, 7, true) + x.span(1, -1, false) + x.span(1, LEAST, false), 3 * BAD);
-    RedlineDesk y = desk("abcdef");
+    Desk y = desk("abcdef");
     y.remark(0, 0, 3);
     y.move(1, 1, 2, 6);
     due("15 moved apart", y.span(1, 4, false) + 10 * y.span(1, 4, true), 50);
     due("15 of a moved one", y.span(2, 4, false) + 10 * y.span(2, 0, false), 15);
-    RedlineDesk z = desk("abcdef");
+    Desk z = desk("abcdef");
     z.remark(0, 0, 2);
     z.move(1, 0, 1, 6);
     due("15 least place, not first letter", z.span(1, 4, false) + 10 * z.span(1, 4, true), 50);
   }
 
   private static void look() {
-    RedlineDesk x = desk("abc");
+    Desk x = desk("abc");
     x.shape(1, 0, 2, 3);
     x.remark(1, 0, 2);
     due("16 what it was", x.look(1, 5) + 10 * x.look(1, 7), 53);
@@ -575,7 +500,7 @@ public final class PromisesTest {
   }
 
   private static void clash() {
-    RedlineDesk x = desk("abcdef");
+    Desk x = desk("abcdef");
     put(x, 0, 0, "XY");
     x.settle(1, true);
     put(x, 0, 0, "Z");
@@ -591,17 +516,17 @@ public final class PromisesTest {
 
   /** No HAND sees another one's OPEN PUT, so that no call can bring about clash 1: only its absence can be tested. */
   private static void clashOne() {
-    RedlineDesk x = desk("ab");
+    Desk x = desk("ab");
     put(x, 0, 1, "X");
     due("17 unseen", x.clash(1, x.strike(1, 0, 2)), 0);
-    RedlineDesk y = desk("ab");
+    Desk y = desk("ab");
     put(y, 0, 0, "XY");
     y.strike(0, 0, 2);
     due("17 own hand", y.clash(1, 2), 0);
   }
 
   private static void clashMoved() {
-    RedlineDesk x = desk("abcdef");
+    Desk x = desk("abcdef");
     x.move(0, 0, 3, 4);
     x.move(1, 2, 4, 0);
     x.move(1, 4, 6, 0);
@@ -611,14 +536,14 @@ public final class PromisesTest {
     due("17 moved, one hand", x.clash(1, 4) + x.clash(2, 3), 0);
     x.settle(2, false);
     due("17 settled", x.clash(1, 2), 0);
-    RedlineDesk y = desk("abcdef");
+    Desk y = desk("abcdef");
     y.move(0, 0, 1, 3);
     y.move(1, 1, 5, 0);
     due("17 a token in both is no letter", y.clash(1, 2), 0);
   }
 
   private static void clashShaped() {
-    RedlineDesk x = desk("abcdef");
+    Desk x = desk("abcdef");
     x.shape(0, 0, 3, 4);
     x.shape(1, 2, 4, 5);
     x.shape(1, 2, 4, 4);
@@ -633,7 +558,7 @@ public final class PromisesTest {
   }
 
   private static void clashStruck() {
-    RedlineDesk x = desk("abcdef");
+    Desk x = desk("abcdef");
     x.remark(0, 0, 2);
     x.strike(1, 1, 4);
     x.shape(2, 3, 5, 1);
@@ -650,7 +575,7 @@ public final class PromisesTest {
   }
 
   private static void clashes() {
-    RedlineDesk x = desk("abcdef");
+    Desk x = desk("abcdef");
     due("18 none", x.clashes(), 0);
     x.remark(0, 0, 2);
     x.strike(1, 1, 4);
@@ -662,8 +587,8 @@ public final class PromisesTest {
     due("18 settled", x.clashes(), 1);
     x.settle(3, true);
     due("18 all settled", x.clashes(), 0);
-    RedlineDesk y = desk("ab");
-    while (y.count(2) < 22) y.remark(0, 0, 1);
+    Desk y = desk("ab");
+    withChanges(y, 22);
     y.strike(1, 1, 2);
     y.remark(2, 1, 2);
     due("18 the last two", y.clashes() + 10 * y.clash(23, 24), 41);
@@ -675,7 +600,7 @@ public final class PromisesTest {
   // ---- 19 .. 21: comparing, cleaning, counting
 
   /** Compares and tells each new CHANGE: its KIND's sign and its LETTERS. */
-  private static String compared(RedlineDesk x, int hand, String to) {
+  private static String compared(Desk x, int hand, String to) {
     int before = x.count(2);
     int made = typed(x, to).compare(hand);
     StringBuilder out = new StringBuilder();
@@ -686,7 +611,7 @@ public final class PromisesTest {
   }
 
   private static void compare() {
-    RedlineDesk x = desk("the quick");
+    Desk x = desk("the quick");
     due("19 alike", compared(x, 0, "the quick"), "");
     due("19 tape goes", x.count(6), 0);
     due("19 words", compared(x, 2, "a quiet kk"), "-3+1" + "-1+3" + "+1");
@@ -695,14 +620,14 @@ public final class PromisesTest {
     due("19 now as before", text(x, 1), "the quick");
     due("19 hand", x.compare(4) + x.compare(-1) + x.compare(LEAST) + x.compare(MOST), 4 * BAD);
     due("19 tape stays", typed(x, "ab").compare(4) + x.count(6), 1);
-    due("19 nothing to nothing", new RedlineDesk().compare(0), 0);
+    due("19 nothing to nothing", new Desk().compare(0), 0);
     due("19 all struck", compared(desk("abc"), 1, ""), "-3");
-    due("19 all put", compared(new RedlineDesk(), 3, "abc"), "+3");
+    due("19 all put", compared(new Desk(), 3, "abc"), "+3");
     due("19 nothing alike", compared(desk("abc"), 1, "xyzw"), "-3+4");
-    RedlineDesk y = desk("abc");
+    Desk y = desk("abc");
     y.strike(0, 0, 1);
     due("19 with now, not the hand's", compared(y, 0, "abc"), "");
-    RedlineDesk z = desk("abc");
+    Desk z = desk("abc");
     z.strike(0, 0, 1);
     z.settle(1, true);
     due("19 with what is taken", compared(z, 0, "abc"), "+1");
@@ -710,30 +635,30 @@ public final class PromisesTest {
   }
 
   private static void compareGaps() {
-    RedlineDesk x = desk("ab");
+    Desk x = desk("ab");
     due("19 struck first", compared(x, 0, "ba"), "-1+1");
     due("19 keeps b", told(x, 0, 4), "10");
     due("19 put behind b", text(x, 2), "ba");
-    RedlineDesk y = desk("axb");
+    Desk y = desk("axb");
     due("19 one behind the other", compared(y, 1, "aybz"), "-1+1+1");
     due("19 text", text(y, 4), "aybz");
     due("19 put behind the struck one", text(y, 2) + y.place(4, 1, 4), "aybz1");
     y.settle(2, true);
     due("19 order in the row", text(y, 1), "axyb");
-    RedlineDesk z = desk("aa");
+    Desk z = desk("aa");
     due("19 the first alike one is kept", compared(z, 0, "a"), "-1");
     due("19 the second one goes", told(z, 0, 4), "01");
-    RedlineDesk w = desk("xa");
+    Desk w = desk("xa");
     put(w, 1, 2, "!");
     due("19 behind the last", compared(w, 0, "xab"), "+1");
     due("19 earlier ones stay behind", text(w, 2), "xab!");
-    RedlineDesk v = desk("xa");
+    Desk v = desk("xa");
     put(v, 1, 0, "!");
     due("19 ahead of the first", compared(v, 0, "bxa"), "+1");
     due("19 earlier ones at the beginning, too", text(v, 2), "b!xa");
-    RedlineDesk u = desk("abcab");
+    Desk u = desk("abcab");
     due("19 fewest", compared(u, 0, "bca"), "-1-1");
-    RedlineDesk t = desk("abcabba");
+    Desk t = desk("abcabba");
     due("19 by the rule", compared(t, 0, "cbabac"), "-2" + "-1" + "+1" + "+1");
     due("19 text by the rule", text(t, 3), "cbabac");
   }
@@ -745,77 +670,72 @@ public final class PromisesTest {
       first += (char) ('!' + i % 90);
       other += i % 40 == 25 ? '~' : first.charAt(i);
     }
-    RedlineDesk x = desk(first);
+    Desk x = desk(first);
     due("19 long, one by one", compared(x, 3, other), "-1+1-1+1-1+1");
     due("19 long text", text(x, 6), other);
-    RedlineDesk y = desk(repeated("a", 70) + "bc" + repeated("d", 48));
+    Desk y = desk(repeated("a", 70) + "bc" + repeated("d", 48));
     due("19 struck first, far behind", compared(y, 1, repeated("a", 70) + "cb" + repeated("d", 48)), "-1+1");
     due("19 long text", text(y, 4) + y.span(1, 0, true), repeated("a", 70) + "cb" + repeated("d", 48) + "70");
-    RedlineDesk z = desk(repeated("a", 63) + "xyz" + repeated("d", 48));
+    Desk z = desk(repeated("a", 63) + "xyz" + repeated("d", 48));
     due("19 at the 64th", compared(z, 1, repeated("a", 63) + "zxy" + repeated("d", 48)), "+1-1");
     due("19 long text", text(z, 4), repeated("a", 63) + "zxy" + repeated("d", 48));
   }
 
   private static void compareMoved() {
-    RedlineDesk x = desk("abcdef");
+    Desk x = desk("abcdef");
     x.move(0, 1, 3, 5);
     x.settle(1, true);
     due("19 now", text(x, 1), "adebcf");
     due("19 in the moved one", compared(x, 2, "adebcXf"), "+1");
     due("19 text", text(x, 5) + told(x, 5, 5), "adebcXf" + "0001110");
-    RedlineDesk y = desk("abcdef");
+    Desk y = desk("abcdef");
     y.move(0, 1, 3, 5);
     y.settle(1, true);
     due("19 in none", compared(y, 2, "Xadebcf"), "+1");
     due("19 text", text(y, 5) + told(y, 5, 5), "Xadebcf" + "0000110");
-    RedlineDesk z = desk("abcdef");
+    Desk z = desk("abcdef");
     z.move(0, 1, 3, 5);
     z.settle(1, true);
     due("19 several", compared(z, 2, "aXdYebZcf-"), "+1+1+1+1");
     due("19 text", text(z, 5) + told(z, 5, 5), "aXdYebZcf-" + "0000011100");
-    RedlineDesk w = desk("abcdef");
+    Desk w = desk("abcdef");
     w.move(0, 1, 3, 5);
     due("19 an open one is not looked at", compared(w, 0, "abcdef"), "");
   }
 
   private static void compareFull() {
-    RedlineDesk x = fullOfChanges("abc");
+    Desk x = fullOfChanges("abc");
     due("19 full changes", typed(x, "abd").compare(0), FULL);
     due("19 tape stays", x.count(6) + x.count(2), 27);
     due("19 bad first", x.compare(4), BAD);
-    RedlineDesk y = fullOfChanges("abc");
+    Desk y = fullOfChanges("abc");
     due("19 nothing to make", typed(y, "abc").compare(0), 0);
-    RedlineDesk z = desk("abc");
-    while (z.count(2) < 22) z.remark(0, 0, 1);
-    String before = state(typed(z, "xby"));
-    due("19 two of four", z.compare(0), FULL);
-    due("19 nothing made", state(z), before);
-    z.begin();
-    RedlineDesk v = desk("ab");
-    while (v.count(2) < 22) v.remark(0, 0, 1);
+    leaves("19 two of four", FULL, () -> typed(withChanges(desk("abc"), 22), "xby"), z -> z.compare(0));
+    Desk v = desk("ab");
+    withChanges(v, 22);
     due("19 two of two", typed(v, "ax").compare(0), 2);
-    RedlineDesk q = desk("ab");
-    while (q.count(2) < 23) q.remark(0, 0, 1);
+    Desk q = desk("ab");
+    withChanges(q, 23);
     due("19 one of one, put", typed(q, "axb").compare(0), 1);
-    RedlineDesk p = desk("axb");
-    while (p.count(2) < 23) p.remark(0, 0, 1);
+    Desk p = desk("axb");
+    withChanges(p, 23);
     due("19 one of one, struck", typed(p, "ab").compare(0) + p.change(24, 0), 2);
-    RedlineDesk w = oneLeft();
+    Desk w = oneLeft();
     w.settle(1, false);
     due("19 full row", typed(w, repeated("a", 117) + "xya").compare(0), FULL);
     due("19 nothing made", w.count(0) + w.count(2) + w.count(6), 239 + 1 + 120);
-    RedlineDesk u = oneLeft();
+    Desk u = oneLeft();
     u.settle(1, false);
     due("19 the last one", typed(u, repeated("a", 118) + "xa").compare(0), 2);
     due("19 row", u.count(0), 240);
-    RedlineDesk t = oneLeft();
+    Desk t = oneLeft();
     t.settle(1, true);
     due("19 long", typed(t, repeated("b", 60) + repeated("a", 60)).compare(0), 2);
     due("19 long text", text(t, 3), repeated("b", 60) + repeated("a", 60));
   }
 
   private static void clean() {
-    RedlineDesk x = desk("abcdef");
+    Desk x = desk("abcdef");
     put(x, 0, 1, "XY");
     put(x, 1, 2, "PQ");
     x.strike(2, 2, 4);
@@ -836,14 +756,14 @@ public final class PromisesTest {
     due("20 tape is no matter", typed(x, "q").clean() + x.count(6), 9);
     due("20 again", x.clean(), 8);
     due("20 the next number", x.strike(0, 0, 1), 7);
-    due("20 nothing", new RedlineDesk().clean(), 0);
-    RedlineDesk y = desk("abc");
+    due("20 nothing", new Desk().clean(), 0);
+    Desk y = desk("abc");
     put(y, 0, 1, "XY");
     y.strike(0, 2, 3);
     y.settle(2, true);
     due("20 struck within an open put", y.clean(), 4);
     due("20 of the open put", y.change(1, 4) + y.length(1), 4);
-    RedlineDesk z = desk("abc");
+    Desk z = desk("abc");
     z.strike(0, 0, 3);
     z.strike(1, 0, 3);
     z.settle(1, true);
@@ -851,11 +771,9 @@ public final class PromisesTest {
   }
 
   private static void cleanMoved() {
-    RedlineDesk x = desk("abcdef");
+    leaves("20 open", NOT, () -> { Desk o = desk("abcdef"); o.move(0, 0, 2, 4); return o; }, o -> o.clean());
+    Desk x = desk("abcdef");
     x.move(0, 0, 2, 4);
-    String before = state(x);
-    due("20 open", x.clean(), NOT);
-    due("20 nothing", state(x), before);
     x.settle(1, true);
     x.move(1, 4, 6, 0);
     due("20 another open", x.clean(), NOT);
@@ -867,7 +785,7 @@ public final class PromisesTest {
     due("20 left", x.clean(), 5);
     due("20 no tokens", x.count(1) + x.change(1, 4) + x.change(2, 4), 0);
     due("20 text", text(x, 0) + text(x, 1) + text(x, 5) + told(x, 0, 5), "befbefbeXYf000");
-    RedlineDesk y = desk("abcdef");
+    Desk y = desk("abcdef");
     y.move(0, 0, 2, 4);
     put(y, 1, 1, "XY");
     y.strike(2, 1, 2);
@@ -877,7 +795,7 @@ public final class PromisesTest {
   }
 
   private static void cleanLooks() {
-    RedlineDesk x = desk("abcdef");
+    Desk x = desk("abcdef");
     x.shape(0, 0, 6, 1);
     x.shape(1, 0, 3, 2);
     x.shape(1, 0, 2, 3);
@@ -904,7 +822,7 @@ public final class PromisesTest {
     x.clean();
     due("20 the later one, too", told(x, 0, 1) + told(x, 0, 6), "377711000000");
     due("20 a new one counts", x.shape(3, 0, 6, 6) + told(x, 6, 1), "6666666");
-    RedlineDesk y = desk("ab");
+    Desk y = desk("ab");
     y.shape(0, 0, 2, 1);
     y.shape(0, 0, 2, 2);
     y.settle(2, true);
@@ -914,7 +832,7 @@ public final class PromisesTest {
   }
 
   private static void count() {
-    RedlineDesk x = desk("abcdef");
+    Desk x = desk("abcdef");
     put(x, 0, 1, "XY");
     x.move(1, 0, 2, 4);
     x.move(1, 1, 2, 4);
@@ -926,22 +844,5 @@ public final class PromisesTest {
     int[] due = {8, 2, 4, 1, 2, 1, 5};
     for (int what = 0; what <= 6; what++) due("21 count(" + what + ")", x.count(what), due[what]);
     due("21 bad", x.count(-1) + x.count(7) + x.count(LEAST) + x.count(MOST), 4 * BAD);
-  }
-
-  /** What is refused, and what is only asked, changes nothing. */
-  private static void refusals() {
-    RedlineDesk x = desk("abcdef");
-    x.move(0, 0, 3, 5);
-    x.shape(1, 1, 4, 2);
-    put(x, 2, 3, "XY");
-    x.settle(2, true);
-    typed(x, "pq");
-    String before = state(x);
-    x.type(7, 1); x.type('a', 0); x.length(9); x.told(0, 99, 0); x.place(0, 99, 0); x.place(0, 1, 2);
-    x.put(9, 0); x.put(0, 99); x.strike(0, 2, 1); x.shape(0, 0, 1, 9); x.remark(0, 0, 99); x.move(1, 3, 6, 1);
-    x.move(1, 0, 2, 1); x.settle(9, true); x.settle(2, false); x.cut(1, 1); x.cut(2, 1); x.cut(3, 2); x.change(9, 9);
-    x.span(9, 9, true); x.look(1, 1); x.look(2, 1); x.look(3, 9); x.clash(1, 1); x.clashes(); x.compare(9);
-    x.clean(); x.count(9);
-    due("refused", state(x), before);
   }
 }
