@@ -80,11 +80,6 @@ public final class ChangeBoundsTest extends Checks {
     due("7 for 1, too", put(z, 1, 0, "Y") + text(z, 2), "3YXba");
   }
 
-  private static String settledText(Desk x, int n) {
-    x.settle(n, true);
-    return text(x, NOW);
-  }
-
   /** BEHIND is in all MOVED ones in which the LETTER is, in no other KIND, and with a 0 in none. */
   private static void putInMoved() {
     Desk x = desk("abcd");
@@ -237,6 +232,11 @@ public final class ChangeBoundsTest extends Checks {
     due("11 T2 between b and c", text(y, 3) + " " + text(y, 5), "aefbcd abfcde");
     due("11 a to e, T2 STANDS in the first", y.move(0, 0, 2, 3) + " " + text(y, 3) + " " + text(y, 2), "3 faebcd bfaecd");
     due("11 T2 is not in it", settledText(y, 3), "bcdfae");
+    Desk z = desk("abcdef");
+    z.move(0, 0, 1, 1);
+    z.move(1, 5, 6, 1);
+    due("11 a STANDS in the first, T2, too; b does not", text(z, 2) + z.move(0, 0, 2, 5) + text(z, 2), "afbcde" + "3" + "cdeafb");
+    due("11 T2 is in it", text(settled(z, false, 1), 2), "cdeafb");
   }
 
   // ---- 11: MOVED ones that would go round
@@ -353,13 +353,11 @@ public final class ChangeBoundsTest extends Checks {
     due("11 the 240th is a TOKEN", x.move(1, 0, 1, 5) + " " + counts(x), "2 239 1 2 2 0 0 0");
     due("11 the 241st", x.move(1, 0, 1, 5) + " " + counts(x), "-3 239 1 2 2 0 0 0");
     due("7 behind a TOKEN", put(x, 1, 0, "c") + " " + x.count(6), "-3 1");
-    leaves("11 a full row", FULL, ChangeBoundsTest::fullRow240, d -> d.move(2, 3, 7, 0));
+    leaves("11 a full row", FULL, Checks::fullRow, d -> d.move(2, 3, 7, 0));
     Desk y = withLetters(238);
     y.move(1, 0, 1, 5);
     due("7 one left beside a TOKEN", put(y, 1, 0, "c") + " " + counts(y), "3 239 1 3 3 0 0 0");
   }
-
-  private static Desk fullRow240() { return fullRow(); }
 
   /** LETTERS of a REFUSED PUT, STRUCK ones, TOKENS of REFUSED ones are of THE ROW until it is CLEANED. */
   private static void hiddenLettersFill() {

@@ -95,6 +95,12 @@ abstract class Checks {
     return out.toString();
   }
 
+  /** NOW, with this CHANGE TAKEN. */
+  static String settledText(Desk x, int n) {
+    x.settle(n, true);
+    return text(x, NOW);
+  }
+
   static String lengths(Desk x) {
     StringBuilder out = new StringBuilder();
     for (int v = 0; v < 7; v++) out.append(v == 0 ? "" : " ").append(x.length(v));

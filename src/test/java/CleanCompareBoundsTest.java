@@ -6,7 +6,7 @@ import java.util.function.Supplier;
  */
 public final class CleanCompareBoundsTest extends Checks {
   public static void main(String[] args) {
-    nothingCompared(); singleLetters(); keptStruckOrPut(); oneChangeAGap(); aGapAtEachPlace(); behindTheLastOfNow();
+    nothingCompared(); singleLetters(); keptStruckOrPut(); oneChangeAGap(); aGapAtEachPlace(); farBehind(); comparedAgain(); behindTheLastOfNow();
     compareAsNow(); compareLooksAtBytes(); compareChangesFull(); compareAll24(); compareRowFull(); compareAtFullLength(); tapeThen();
     nothingCleaned(); nothingSettled(); openMoved(); whatGoes(); whatStays(); rowBecomesNow(); movedWithin();
     looksTheirs(); looksEarlierOpen(); looksStayWithTheirLetters(); settledHaveNone(); lettersGone(); roomAgain(); tapeOverClean();
@@ -97,6 +97,37 @@ public final class CleanCompareBoundsTest extends Checks {
     }
   }
 
+  /** What is STRUCK far behind in THE TAPE is not what would be at its beginning. */
+  private static void farBehind() {
+    for (int q = 3; q <= 118; q++) {
+      String many = repeated("d", q);
+      Desk x = desk(many + "xy");
+      due("19 one x PUT, one STRUCK, " + q + " apart", compared(x, 1, "x" + many.substring(1) + "y") + " " + x.span(3, 0, false), "-1+1-1 " + q);
+    }
+  }
+
+  /** Nothing of an earlier comparison is left. */
+  private static void comparedAgain() {
+    Desk x = desk("abc");
+    due("19 first", compared(x, 0, "abc"), "");
+    x.strike(0, 2, 3);
+    x.settle(1, true);
+    due("19 again, a shorter NOW", compared(x, 0, "cb"), "-1+1");
+    due("19 again, a shorter TAPE", compared(x, 1, "b"), "-1");
+    due("19 again, alike", compared(x, 2, "ab"), "");
+    leaves("19 again, FULL", FULL, () -> { Desk y = withChanges(desk("abc"), 23); y.compare(0); return typed(y, "b"); }, y -> y.compare(1));
+    leaves("19 again, no longer than before, FULL", FULL, CleanCompareBoundsTest::comparedAlike, y -> y.compare(1));
+    leaves("19 again, a full ROW", FULL, () -> { Desk y = halfHidden(240); compared(y, 0, "a"); return typed(y, "ax"); }, y -> y.compare(1));
+    Desk z = fullOfChanges("ab");
+    due("19 FULL, then not", compared(z, 1, "xb") + " " + z.begin() + " " + compared(z, 1, "xby"), "-3 2 +1");
+  }
+
+  private static Desk comparedAlike() {
+    Desk x = withChanges(desk("abc"), 23);
+    typed(x, "abc").compare(0);
+    return typed(x, "axc");
+  }
+
   private static void behindTheLastOfNow() {
     Desk x = desk("ab");
     put(x, 1, 1, "!");
@@ -120,11 +151,6 @@ public final class CleanCompareBoundsTest extends Checks {
     Desk u = desk("ab");
     put(u, 1, 0, "!");
     due("19 at the beginning, earlier ones behind", compared(u, 0, "Xab") + text(u, 2), "+1" + "X!ab");
-  }
-
-  private static String settledText(Desk x, int n) {
-    x.settle(n, true);
-    return text(x, NOW);
   }
 
   private static void compareAsNow() {
@@ -446,7 +472,8 @@ public final class CleanCompareBoundsTest extends Checks {
       else mark(x, kind, 0, 1, 3);
       x.strike(kind == PUT ? 0 : 1, 1, 3);
       x.settle(2, true);
-      due("20 KIND " + kind + ", its LETTERS go", x.clean() + " " + change(x, 1), (kind == PUT ? 4 : 2) + " " + kind + " 0 0 " + (kind == SHAPED ? 1 : 0) + " 0");
+      String none = kind + " 0 0 " + (kind == SHAPED ? 1 : 0) + " 0";
+      due("20 KIND " + kind + ", its LETTERS go", x.clean() + " " + change(x, 1), (kind == PUT ? 4 : 2) + " " + none);
       due("20 span", x.span(1, 3, false) + x.span(1, 0, true) + x.span(1, 2, true), 3 * NOT);
       due("20 cut", x.cut(1, 1) + x.cut(1, 0) + x.cut(1, -1), 3 * NOT);
       x.remark(1, 0, 1);

@@ -6,7 +6,7 @@ public final class TextBoundsTest extends Checks {
   public static void main(String[] args) {
     emptyDesk(); emptyDeskChanged();
     bytesOfAWord(); bytesBeyondN(); howManyBytes(); tapeOf120(); wildWords();
-    beginBounds(); beginAnew(); views(); viewNumbers();
+    beginBounds(); beginAnew(); views(); viewsOfThe24th(); viewNumbers();
     toldPlaces(); toldWhats(); toldCountsToTheFull(); toldOneOfEach(); placeBounds();
     standsInTheLatest(); tokenWhoseChangeCountsNot(); thereOrNot(); looksOfViews();
     countNumbers(); countStates(); lastCall();
@@ -155,6 +155,10 @@ public final class TextBoundsTest extends Checks {
     Desk y = typed(fullOfChanges("pq"), "abc");
     y.begin();
     due("3 numbers from 1 to 24", withChanges(y, 24).count(2) + " " + y.remark(0, 0, 1), "24 -3");
+    Desk w = fullOfChanges("pq");
+    for (int n = 1; n <= 24; n++) w.settle(n, n % 2 == 0);
+    typed(w, "abc").begin();
+    due("3 settled ones, too: the new ones are OPEN", withChanges(w, 24).count(3) + " " + w.change(1, 2) + w.change(24, 2), "24 00");
     Desk z = desk("ab");
     z.shape(0, 0, 2, 5);
     z.settle(1, true);
@@ -192,6 +196,20 @@ public final class TextBoundsTest extends Checks {
     due("4 an empty view", lengths(y), "2 2 0 2 2 0 2");
     y.settle(1, true);
     due("4 an empty NOW", lengths(y), "2 0 0 0 0 0 0");
+  }
+
+  /** The 24th counts like any other. */
+  private static void viewsOfThe24th() {
+    for (int h = 0; h <= 3; h++) {
+      Desk x = withChanges(desk("ab"), 23);
+      put(x, h, 1, "X");
+      due("T1 the 24th, OPEN, of " + h, lengths(x), new String[] {"2 2 3 3 2 2 2", "2 2 3 2 3 2 2", "2 2 3 2 2 3 2", "2 2 3 2 2 2 3"}[h]);
+      x.settle(24, true);
+      due("T1 the 24th, TAKEN", lengths(x), "2 3 3 3 3 3 3");
+    }
+    Desk y = withChanges(desk("ab"), 23);
+    y.move(2, 0, 1, 2);
+    due("T1 the 24th MOVED", text(y, 5) + text(y, 2) + text(y, 4) + told(y, 5, 3), "babaab" + "0o");
   }
 
   private static void viewNumbers() {
