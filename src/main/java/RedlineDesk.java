@@ -838,7 +838,7 @@ public final class RedlineDesk {
             long low = 0;
             long high = 0;
             int withoutBoth = 0;
-            for (int j = typedSize - 1; j >= 0; j--) {
+            for (int j = Math.min(typedSize, MOST_BYTES) - 1; j >= 0; j--) {
                 int withoutThis = most[j];
                 most[j] = now[i] == typed[j] ? withoutBoth + 1 : Math.max(withoutThis, most[j + 1]);
                 long strikes = most[j] == withoutThis ? 1L : 0L;
@@ -887,18 +887,26 @@ public final class RedlineDesk {
         }
 
         private boolean isWithinGap() {
-            return (nowTo < nowSize || tapeTo < typedSize) && !areAlike(nowTo, tapeTo);
+            return (isOfNow(nowTo) || isOfTape(tapeTo)) && !areAlike(nowTo, tapeTo);
+        }
+
+        private boolean isOfNow(int i) {
+            return i >= 0 && i < nowSize && i < MOST_PIECES;
+        }
+
+        private boolean isOfTape(int j) {
+            return j >= 0 && j < typedSize && j < MOST_BYTES;
         }
 
         private boolean areAlike(int i, int j) {
-            return i >= 0 && i < nowSize && j >= 0 && j < typedSize && now[i] == typed[j];
+            return isOfNow(i) && isOfTape(j) && now[i] == typed[j];
         }
 
         private boolean isStruckNext(int i, int j) {
-            if (i < 0 || i >= nowSize || j < 0) {
+            if (!isOfNow(i)) {
                 return false;
             }
-            if (j >= typedSize) {
+            if (!isOfTape(j)) {
                 return true;
             }
             long word = j < 64 ? strikesNext[2 * i] : strikesNext[2 * i + 1];

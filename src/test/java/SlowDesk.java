@@ -5,7 +5,7 @@ import java.util.Map;
 import java.util.TreeSet;
 
 /** The document told a second time, as plainly as can be and with the Java library, to hold RedlineDesk against. */
-final class SlowDesk {
+final class SlowDesk implements Calls {
   static final class Edit {
     final int number, kind, hand;
     int state, look;
@@ -88,7 +88,7 @@ final class SlowDesk {
 
   // ---- 1 texts
 
-  int type(long w, int n) {
+  public int type(long w, int n) {
     if (n < 1 || n > 8) return -1;
     StringBuilder s = new StringBuilder();
     for (int i = n - 1; i >= 0; i--) {
@@ -101,7 +101,7 @@ final class SlowDesk {
     return tape.length();
   }
 
-  int begin() {
+  public int begin() {
     row.clear();
     edits.clear();
     for (char c : tape.toCharArray()) { Piece p = new Piece(); p.sign = c; row.add(p); }
@@ -109,9 +109,9 @@ final class SlowDesk {
     return row.size();
   }
 
-  int length(int v) { return view(v) ? shown(v).size() : -1; }
+  public int length(int v) { return view(v) ? shown(v).size() : -1; }
 
-  int told(int v, int place, int what) {
+  public int told(int v, int place, int what) {
     if (!view(v) || what < 0 || what > 7) return -1;
     List<Piece> s = shown(v);
     if (place < 0 || place >= s.size()) return -1;
@@ -123,7 +123,7 @@ final class SlowDesk {
     return ofKind(p, what - 3);
   }
 
-  int place(int v, int place, int other) {
+  public int place(int v, int place, int other) {
     if (!view(v) || !view(other)) return -1;
     List<Piece> s = shown(v);
     if (place < 0 || place >= s.size()) return -1;
@@ -156,7 +156,7 @@ final class SlowDesk {
     }
   }
 
-  int put(int h, int a) {
+  public int put(int h, int a) {
     if (!hand(h)) return -1;
     List<Piece> s = shown(3 + h);
     if (a < 0 || a > s.size()) return -1;
@@ -178,9 +178,9 @@ final class SlowDesk {
     return e.number;
   }
 
-  int strike(int h, int a, int b) { return mark(1, h, a, b, 0); }
-  int shape(int h, int a, int b, int look) { return look < 1 || look > 7 ? -1 : mark(3, h, a, b, look); }
-  int remark(int h, int a, int b) { return mark(4, h, a, b, 0); }
+  public int strike(int h, int a, int b) { return mark(1, h, a, b, 0); }
+  public int shape(int h, int a, int b, int look) { return look < 1 || look > 7 ? -1 : mark(3, h, a, b, look); }
+  public int remark(int h, int a, int b) { return mark(4, h, a, b, 0); }
 
   /** Whether, by these outer sets (of the TOKEN of each one), some one is within itself. */
   static boolean round(Map<Integer, TreeSet<Integer>> outer) {
@@ -196,7 +196,7 @@ final class SlowDesk {
     return false;
   }
 
-  int move(int h, int a, int b, int c) {
+  public int move(int h, int a, int b, int c) {
     if (!hand(h)) return -1;
     List<Piece> s = shown(3 + h);
     if (a < 0 || b <= a || b > s.size() || c < 0 || c > s.size() || (a < c && c < b)) return -1;
@@ -230,7 +230,7 @@ final class SlowDesk {
     return e.number;
   }
 
-  int settle(int n, boolean taken) {
+  public int settle(int n, boolean taken) {
     Edit e = edit(n);
     if (e == null) return -1;
     if (e.state != 0) return -2;
@@ -238,7 +238,7 @@ final class SlowDesk {
     return 1;
   }
 
-  int cut(int n, int k) {
+  public int cut(int n, int k) {
     Edit e = edit(n);
     if (e == null) return -1;
     if (e.kind == 2) return -13;
@@ -250,13 +250,13 @@ final class SlowDesk {
     return f.number;
   }
 
-  int change(int n, int what) {
+  public int change(int n, int what) {
     Edit e = edit(n);
     if (e == null || what < 0 || what > 4) return -1;
     return new int[] {e.kind, e.hand, e.state, e.look, letters(n).size()}[what];
   }
 
-  int span(int n, int v, boolean last) {
+  public int span(int n, int v, boolean last) {
     if (edit(n) == null || !view(v)) return -1;
     List<Piece> s = shown(v);
     TreeSet<Integer> at = new TreeSet<>();
@@ -264,7 +264,7 @@ final class SlowDesk {
     return at.isEmpty() ? -2 : last ? at.last() : at.first();
   }
 
-  int look(int n, int look) {
+  public int look(int n, int look) {
     Edit e = edit(n);
     if (e == null || look < 1 || look > 7) return -1;
     if (e.kind != 3) return -13;
@@ -274,7 +274,7 @@ final class SlowDesk {
     return was;
   }
 
-  int clash(int a, int b) {
+  public int clash(int a, int b) {
     if (edit(a) == null || edit(b) == null || a == b) return -1;
     Edit x = edit(Math.min(a, b)), y = edit(Math.max(a, b));
     if (x.state != 0 || y.state != 0 || x.hand == y.hand) return 0;
@@ -288,7 +288,7 @@ final class SlowDesk {
     return 0;
   }
 
-  int clashes() {
+  public int clashes() {
     int found = 0;
     for (int b = 2; b <= edits.size(); b++) for (int a = 1; a < b; a++) if (clash(a, b) > 0) found++;
     return found;
@@ -320,7 +320,7 @@ final class SlowDesk {
     return out.toString();
   }
 
-  int compare(int h) {
+  public int compare(int h) {
     if (!hand(h)) return -1;
     List<Piece> now = shown(1);
     StringBuilder text = new StringBuilder();
@@ -349,7 +349,7 @@ final class SlowDesk {
     return due;
   }
 
-  int clean() {
+  public int clean() {
     for (Edit e : edits) if (e.kind == 2 && e.state == 0) return -2;
     List<Piece> all = new ArrayList<>(), left = new ArrayList<>();
     unfold(0, 1, true, all);
@@ -372,7 +372,7 @@ final class SlowDesk {
     return row.size();
   }
 
-  int count(int what) {
+  public int count(int what) {
     int tokens = 0;
     int[] states = new int[3];
     for (Piece p : row) if (p.token != null) tokens++;
